@@ -35,7 +35,6 @@ public final class WayMayor {
     private static final int TAPE_BYTES = 400;
     private static final int FEED_BYTES = 20;
     private static final int MAX_DIGITS = 5;
-    private static final int MAX_NUMBER = 99999;
     private static final int TOWN_CLAUSES = 40;
     private static final int RULE_CLAUSES = 12;
     private static final int MAX_DEPTH = 10;

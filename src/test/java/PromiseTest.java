@@ -139,6 +139,12 @@ public final class PromiseTest {
         due("nobody has the chain", x.count(7), NONE);
         due("nobody got there", x.count(8), 0);
         due("nobody was asked", x.count(9), 0);
+        Check.town(x, LINE);
+        for (int p = 0; p < 3; p++) {
+            due("asked in this term", x.person(p, 3), 0);
+            due("had the chain", x.person(p, 5), 0);
+            due("before", x.before(0, p), 0);
+        }
         due("rule in force stays", x.count(5), 0);
         due("x stays", x.count(12), 77);
         due("undo", x.undo(), -2);
@@ -160,6 +166,12 @@ public final class PromiseTest {
             due("rule " + i, Check.rule(x, "ask " + i + " if kind > " + i + " or not [hour=1]"), i);
             due("tape empty", x.count(13), 0);
         }
+        WayMayor y = Check.inTown(CROWD);
+        Check.rule(y, "ask 10-kind if kind=1;ask 7 if");
+        Check.rule(y, "ask kind if kind>1");
+        y.force(0);
+        y.hour();
+        due("nothing is left of a text that has a fault", y.before(0, 1), 1);
         due("a seventh", Check.rule(x, "ask 1"), NONE);
         due("its tape stays", x.count(13), 5);
         due("a seventh with a fault", Check.rule(x, "ask"), NONE);
@@ -261,6 +273,15 @@ public final class PromiseTest {
         due("asks though no street is left", x.hour(), 1);
         due("stays", x.stranger(0, 3), 0);
 
+        x = Check.inTown("town 8 9;street 7 6;street 7 0;person 6 0 1;person 0 0 1;stranger 0 6 1;stranger 6 0 1");
+        x.hour();
+        due("sent wrong to 7", x.stranger(0, 3), 7);
+        due("sent wrong to 7", x.stranger(1, 3), 7);
+        x.stand(0, 7);
+        x.shut(6, 7);
+        x.hour();
+        due("sent wrong to 0", x.stranger(0, 3), 0);
+
         x = Check.inTown("town 3 2;street 0 1;person 0 0 0;stranger 0 2 1");
         due("kind 0 is asked without a rule", x.hour(), 1);
         due("no way: stays", x.stranger(0, 3), 0);
@@ -347,6 +368,12 @@ public final class PromiseTest {
         test("kind=3 and person=1", false);
         test("1<1 or 1<=1", true);
         test("1>=2 or 2>2", false);
+        test("1<=2 and 2>=1 and 1>=1 and 1<2 and 2>1", true);
+        test("2<=1 or 1>=2 or 1>1 or 1<1 or 2=1", false);
+        test("1=1 or 1=2 or 1=2", true);
+        test("1=1 or 1=2 or 1=2 and 1=1", true);
+        test("not [1=1 or 1=2]", false);
+        test("not [1=2 and 1=1] and 1=1", true);
         test("1=1 or 1=2 and 1=2", true);
         test("[1=1 or 1=2] and 1=2", false);
         test("1=2 and 1=1 or 1=1", true);
@@ -368,6 +395,10 @@ public final class PromiseTest {
         Check.rule(x, "ask 1 if far=99");
         x.force(0);
         due("far without a way", x.hour(), 1);
+        x = Check.inTown("town 8 9;street 7 6;person 7 1 0;stranger 7 6 1");
+        Check.rule(x, "ask 1 if place=7 and far=1 and others=0 and chain=0");
+        x.force(0);
+        due("place 7", x.hour(), 1);
     }
 
     private static void actsByHand() {
@@ -477,6 +508,11 @@ public final class PromiseTest {
         due("person 3", x.ahead(3, 1, 0), -2);
         due("stranger 1", x.ahead(1, 1, 1), -2);
         due("stranger -1", x.ahead(-1, 1, 1), -2);
+        Check.rule(x, "ask 0");
+        x.force(0);
+        due("by the rule in force nobody is asked", x.ahead(1, 8, 0), 1);
+        x.force(NONE);
+        due("without it", x.ahead(1, 8, 0), 3);
         due("nothing changes", x.count(6), 2);
         due("nothing changes", x.stranger(0, 3), 2);
         x = Check.inTown("town 2 30;street 0 1;stranger 0 1 1");
@@ -514,8 +550,11 @@ public final class PromiseTest {
         due("pitch of 0 for 1", x.pitch(0, 1, 0), 0);
         due("pitch of 1 for 12", x.pitch(1, 12, 0), 1);
         due("how often", x.pitch(1, 12, 1), 3);
+        hours(x, 4);
+        due("in these hours alone", x.pitch(0, 2, 1), 1);
+        due("asked nowhere", x.pitch(1, 1, 1), 0);
+        due("of several the least", x.pitch(1, 1, 0), 0);
         x.stand(0, 3);
-        due("asked nowhere: the least", x.pitch(0, 1, 1), 1);
         due("what 2", x.pitch(0, 1, 2), NONE);
         due("what -1", x.pitch(0, 1, -1), NONE);
         due("n 0", x.pitch(0, 0, 0), NONE);
@@ -527,6 +566,9 @@ public final class PromiseTest {
         x = Check.inTown("town 2 2;street 0 1;person 0 5 0;person 0 7 0;stranger 0 1 1");
         due("as kind, but the less", x.smile(0, 2), 7);
         due("kinder", x.smile(1, 2), 6);
+        x.collar(1, 9);
+        due("as kind as can be", x.smile(0, 2), 9);
+        x.undo();
         due("not yet", x.smile(0, 1), -2);
         due("person 2", x.smile(2, 1), NONE);
         due("person -1", x.smile(-1, 1), NONE);
@@ -623,6 +665,12 @@ public final class PromiseTest {
         due("none", x.post(2, 2), NONE);
         due("n 60", x.post(60, 0), 20);
         due("nothing is shut", x.streets(1), 13);
+        due("n 1", x.post(1, 0), 0);
+        x.image(0);
+        x.shut(3, 1);
+        hours(x, 4);
+        due("in these hours alone", x.post(2, 0), 1);
+        x.back(0);
         x.shut(3, 1);
         due("shut already", x.post(3, 0), 1);
         due("none better", x.post(3, 1), NONE);
@@ -673,6 +721,8 @@ public final class PromiseTest {
         due("first", x.rests(0, 1, 2, 1), 0);
         due("first", x.rests(0, 1, 2, 2), 1);
         due("the other way round", x.rests(1, 0, 1, 0), 3);
+        due("first", x.rests(1, 0, 1, 1), 0);
+        due("first", x.rests(1, 0, 1, 2), 0);
         due("n 20", Math.min(x.rests(0, 1, 20, 0), 0), 0);
         due("unlike", x.rests(1, 1, 1, 0), NONE);
         due("person 2", x.rests(0, 2, 1, 0), NONE);
@@ -805,6 +855,8 @@ public final class PromiseTest {
         due("stands where they did", x.person(0, 0), 1);
         x.hour();
         due("only those of these hours", x.markets(1, 1, 0, 0), 1);
+        x.hour();
+        due("only those of these hours", x.markets(1, 2, 0, 0), 1);
         due("m 0", x.markets(0, 1, 0, 0), NONE);
         due("m 11", x.markets(11, 1, 0, 0), NONE);
         due("n 0", x.markets(1, 0, 0, 0), NONE);
@@ -845,7 +897,7 @@ public final class PromiseTest {
         x.force(0);
         x.seed(8);
         hours(x, 22);
-        x.note(0, 0, 0);
+        x.note(1, 0, 1);
         x.stand(0, 3);
         due("image", x.image(0), 22);
         due("image 4", x.image(4), NONE);
@@ -867,7 +919,9 @@ public final class PromiseTest {
         due("force", x.count(5), 0);
         due("x", x.count(12), 8);
         due("notes", x.count(10), 1);
+        due("the same note", x.ruled(0), 3);
         due("what can be undone", x.count(11), 20);
+        due("chains", x.person(0, 5), 6);
         due("rules stay", x.count(4), 2);
         due("the tape stays", x.count(13), 20);
         due("place", x.person(0, 0), 3);
@@ -875,6 +929,15 @@ public final class PromiseTest {
         due("undone", x.person(0, 0), 0);
         due("undo an hour", x.undo(), 18);
         due("hour", x.count(6), 21);
+        x.force(NONE);
+        hours(x, 20);
+        due("back once more", x.back(0), 22);
+        for (int i = 19; i > 0; i--) {
+            x.undo();
+        }
+        due("the oldest that can be undone", x.undo(), 0);
+        due("hour 3", x.count(6), 3);
+        due("asked", x.count(9), 3);
         due("back once more", x.back(0), 22);
         due("as it was", x.count(11), 20);
         due("image written over", (x.hour() + x.image(0)), 24);
