@@ -83,7 +83,7 @@ public final class OracleTest {
                 both("rule");
             } else {
                 String name = CALL_NAMES[random.nextInt(CALL_NAMES.length)];
-                both(name, arguments(name));
+                both(name, strayed(arguments(name)));
             }
         }
         for (int what = 0; what < 14; what++) {
@@ -234,6 +234,15 @@ public final class OracleTest {
             p = plain.whom(n, g, plain.call("count", 5), run % 2 == 0 ? told : run % 64);
         }
         return new int[] {n, g, p};
+    }
+
+    /** Now and then one of them is far outside. */
+    private int[] strayed(int[] a) {
+        int[] far = {Integer.MIN_VALUE, Integer.MIN_VALUE + 1, -1000, -3, 64, 1 << 16, 1 << 30, Integer.MAX_VALUE};
+        if (a.length > 0 && random.nextInt(30) == 0) {
+            a[random.nextInt(a.length)] = far[random.nextInt(far.length)];
+        }
+        return a;
     }
 
     private int[] arguments(String name) {

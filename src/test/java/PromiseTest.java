@@ -167,7 +167,7 @@ public final class PromiseTest {
             due("tape empty", x.count(13), 0);
         }
         WayMayor y = Check.inTown(CROWD);
-        Check.rule(y, "ask 10-kind if kind=1;ask 7 if");
+        Check.rule(y, "ask 20 if kind=1;ask 7 if");
         Check.rule(y, "ask kind if kind>1");
         y.force(0);
         y.hour();
@@ -359,6 +359,7 @@ public final class PromiseTest {
         due("far", askedBy("ask 1 if far=1", 1), 0);
         due("chain", askedBy("ask 1+chain if hour>0;ask kind", 6), NONE);
         due("chain at hour 6", askedBy("ask 1+chain*5 if hour>5;ask kind", 7), 1);
+        due("chain is 1", askedBy("ask 1 if chain=1;ask kind if hour<5", 7), 1);
         due("term", askedBy("ask 1 if term=1 and hour=6", 7), 0);
         due("come", askedBy("ask 1 if come=4;ask kind if come<3", 5), 0);
         due("stranger", askedBy("ask 1 if stranger=0", 1), 0);
@@ -599,6 +600,10 @@ public final class PromiseTest {
         due("round", x.way(1, 2, 0), 3);
         x.shut(3, 0);
         due("shut off", x.way(0, 2, 0), -2);
+        x = Check.inTown("town 2 1");
+        due("no street at all", x.way(0, 1, 0), -2);
+        due("no street at all", x.way(0, 1, 1), -2);
+        due("the same", x.way(1, 1, 0), 0);
     }
 
     private static void came() {
@@ -678,6 +683,11 @@ public final class PromiseTest {
         due("n 61", x.post(61, 0), -2);
         due("what 3", x.post(1, 3), -2);
         due("what -1", x.post(1, -1), -2);
+        // Nobody stands at 1, so that he goes back to 0 unless that street is shut.
+        x = Check.inTown("town 4 9;street 0 1;street 1 2;street 3 1;stranger 3 2 1");
+        due("street 0 1", x.post(3, 0), 1);
+        due("one", x.post(3, 1), 0);
+        due("other", x.post(3, 2), 1);
         x = Check.inTown("town 5 9;street 0 1;street 1 4;street 4 3;street 1 2;person 1 1 1;stranger 0 2 1");
         due("of two the lesser place", x.post(3, 0), 1);
         due("one", x.post(3, 1), 1);
@@ -823,6 +833,14 @@ public final class PromiseTest {
         due("in hour 1 nobody asks", x.look(1, 0), 0);
         due("all alike", x.look(1, 1), 4);
         due("n 60", x.look(60, 0), 1);
+        x.note(0, 0, 1);
+        due("from the begin on, behind a note", x.look(0, 0), 1);
+        due("each alone", x.look(0, 1), 1);
+        x = Check.inTown(CROWD);
+        Check.rule(x, "ask 10-kind if stranger=0;ask kind");
+        Check.rule(x, "ask 9-person if stranger=0;ask kind");
+        due("stranger 0 parts all", x.look(0, 0), 0);
+        due("each alone", x.look(0, 1), 1);
         due("n 61", x.look(61, 0), NONE);
         due("n -1", x.look(-1, 0), NONE);
         due("what 2", x.look(0, 2), NONE);
@@ -910,9 +928,11 @@ public final class PromiseTest {
         x.force(NONE);
         x.seed(3);
         x.note(NONE, 0, 0);
+        x.note(2, 0, NONE);
         hours(x, 3);
         Check.rule(x, "ask 1");
-        Check.town(x, "town 2 1");
+        Check.town(x, FORK + ";stranger 1 2 1");
+        x.note(2, 1, NONE);
         x.feed(0, 0, 0, 0, 0);
         due("back", x.back(0), 22);
         due("town", x.count(0), 4);
