@@ -214,6 +214,8 @@ public final class EdgeAskTest {
         SAY.due("its end", x.smile(0, 5), 0);
         x = Sentences.by(STUCK, "ask 10-kind if kind>2 and person=1");
         SAY.due("by a rule", x.smile(1, 1), 3);
+        x = Sentences.by(STUCK, "ask 1 if person=1");
+        SAY.due("by any, none below 0", x.smile(1, 1), 0);
 
         SAY.of(20, "SMILE; -2: by none; NONE without these.");
         x = Check.inTown("town 2 1;person 0 9 0;person 0 9 0;stranger 0 1 1");
@@ -289,6 +291,9 @@ public final class EdgeAskTest {
         SAY.due("from 4", x.came(0, 2, 1, 1), 4);
         x.hunt(0);
         SAY.due("he is not in the town himself", x.came(0, 2, 1, 0), 1);
+        x = Check.inTown("town 8 1;street 0 1;stranger 0 7 1");
+        SAY.due("of eight places 0 alone", x.came(0, 1, 1, 0), 1);
+        SAY.due("of eight places 0 alone", x.came(0, 1, 1, 1), 0);
 
         SAY.of(22, "CAME what 0: how many, 1: the least (-2: there is none). NONE without these.");
         x = Check.inTown(star);
@@ -383,6 +388,15 @@ public final class EdgeAskTest {
         x.shut(0, 1);
         threeOfPost(x, 2, 0, NONE, NONE);
         SAY.due("none is opened", x.streets(0), 0);
+        // Nobody stands at 1, so that he goes on to 0 unless that street is shut.
+        x = Check.inTown("town 4 9;street 0 1;street 1 2;street 3 1;stranger 3 2 1");
+        threeOfPost(x, 3, 1, 0, 1);
+        x = Check.inTown("town 8 9;street 5 4;street 5 7;street 6 7;person 7 1 0;person 5 1 1;stranger 4 5 20;"
+                + "stranger 7 6 20");
+        threeOfPost(x, 20, 2, NONE, NONE);
+        // Who sends wrong at 5 sends to 7, unless that street is shut, the last but one.
+        x = Check.inTown("town 8 9;street 4 5;street 5 6;street 5 7;street 6 7;person 5 1 1;person 7 1 1;stranger 4 6 20");
+        threeOfPost(x, 3, 1, 5, 7);
 
         SAY.of(24, "POST what 0: how many, 1, 2: which (NONE: none). -2 without these, or a TOWN.");
         threeOfPost(Check.inTown("town 2 1"), 60, 0, NONE, NONE);
@@ -433,6 +447,12 @@ public final class EdgeAskTest {
         SAY.due("three turns", x.game(0, 1, 3, 0), 2);
         SAY.due("to 0", x.game(0, 1, 3, 1), 0);
         SAY.due("two turns", x.game(0, 1, 2, 0), 1);
+        // The first one meets him at 1, and goes on with him to 2 in the third turn.
+        x = Check.inTown("town 6 9;street 0 1;street 1 2;street 2 3;street 3 4;person 2 5 0;person 5 5 0;stranger 0 4 20");
+        SAY.due("the third turn is the first one's", x.game(0, 1, 3, 0), 2);
+        SAY.due("by 1", x.game(0, 1, 3, 1), 1);
+        SAY.due("the second turn is the second one's, who meets him at 1", x.game(1, 0, 3, 0), -1);
+        SAY.due("the first turn is not", x.game(1, 0, 1, 0), 0);
 
         SAY.of(25, "the first one wants to be ASKED in these as much oftener than the second one as can be, the second one as "
                 + "little, if both do their best: how much; where the first one goes first (of several the least PLACE, where "
@@ -544,10 +564,19 @@ public final class EdgeAskTest {
         x = Check.inTown(STUCK);
         x.hour();
         shares(x, 9999, 0, 9999);
+        x = Check.inTown("town 2 1;person 0 1 0;person 0 2 0;person 0 3 0;person 0 4 0;person 0 5 0;person 0 6 0;"
+                + "stranger 0 1 1");
+        x.hour();
+        x.collar(0, 9);
+        x.hour();
+        shares(x, 7, 4, 0, 0, 0, 0, 3);
 
         SAY.of(27, "PENCE of a PERSON; NONE without these.");
+        x = Check.inTown(STUCK);
+        x.hour();
         int[] muchNot = {10000, MAX, -1, MIN};
         for (int much : muchNot) {
+            SAY.due("pence " + much, x.pence(much, 0), NONE);
             SAY.due("pence " + much, x.pence(much, 1), NONE);
         }
         SAY.due("person 2 of 2", x.pence(1, 2), NONE);

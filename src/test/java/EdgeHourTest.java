@@ -140,6 +140,7 @@ public final class EdgeHourTest {
         SAY.due("all five", x.hour(), 5);
         SAY.due("all get there", x.hour(), 0);
         SAY.due("they come again, by 1 and by 2", x.hour(), 2);
+        SAY.due("another one does not", x.stranger(4, 3), NONE);
         x = Sentences.by(FULL, "ask 1 if person>2");
         SAY.due("who asks nobody does not count", x.hour(), 2);
         SAY.due("without strangers", Check.inTown("town 2 1;person 0 1 0").hour(), 0);

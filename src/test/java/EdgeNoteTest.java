@@ -182,9 +182,18 @@ public final class EdgeNoteTest {
         // Of stranger 1 two are alike and one is not; of stranger 0 all three are.
         twoOfLook(x, 0, 1, 2);
         SAY.due("without a rule: none alone", Check.inTown(CROWD).look(0, 1), 1);
+        twoOfLook(Sentences.by(CROWD, "ask 10-kind if stranger=0;ask kind"), 0, 0, 1);
+        twoOfLook(Sentences.by(CROWD, "ask 10-kind"), 0, 0, 1);
+        x = Check.inTown("town 2 1;person 0 1 0;person 0 2 0" + ";stranger 0 1 1".repeat(5));
+        for (int i = 0; i < 6; i++) {
+            Check.rule(x, i < 3 ? "ask 1 if stranger=4;ask kind" : "ask kind");
+        }
+        // Of the last one three are alike, and four; of the others all seven.
+        twoOfLook(x, 0, 4, 4);
 
         SAY.of(30, "LOOK (n 0 to 60) what 0: the STRANGER, 1: how many; -2: no RULE is so, or there are no STRANGERS. NONE without "
                 + "these, or a TOWN.");
+        x = Sentences.by(CROWD, "ask kind");
         x.note(0, 0, 2);
         twoOfLook(x, 0, -2, -2);
         twoOfLook(Check.inTown("town 2 1;person 0 0 0"), 0, -2, -2);
@@ -361,6 +370,10 @@ public final class EdgeNoteTest {
         }
         SAY.due("to hour 5", x.count(6), 5);
         SAY.due("no more", x.undo(), -2);
+        undoneAlike(0);
+        undoneAlike(3);
+        undoneAlike(20);
+        undoneAlike(33);
         SAY.due("once more", x.back(2), 22);
         SAY.holds("the image stays as it was", seen.equals(Sentences.seen(x)));
         Check.rule(x, "ask 1");
@@ -391,5 +404,26 @@ public final class EdgeNoteTest {
         }
         SAY.holds("nothing happens", seen.equals(Sentences.seen(x)));
         SAY.due("none made", new WayMayor().back(0), NONE);
+    }
+
+    /** What can be undone behind so many acts is the same for one that went away from there, and back. */
+    private static void undoneAlike(int acts) {
+        WayMayor stays = Check.inTown(LINE);
+        WayMayor goes = Check.inTown(LINE);
+        for (int i = 0; i < acts; i++) {
+            int place = (stays.person(i % 3, 0) + 1) % 4;
+            SAY.holds("an act", i % 2 == 0 ? stays.hour() == goes.hour()
+                    : stays.stand(i % 3, place) == goes.stand(i % 3, place));
+        }
+        goes.image(0);
+        for (int i = 0; i < 27; i++) {
+            goes.collar(0, i % 5);
+            goes.hour();
+        }
+        goes.back(0);
+        for (int i = 0; i <= acts; i++) {
+            SAY.holds(acts + " acts, " + i + " undone", Sentences.seen(stays).equals(Sentences.seen(goes)));
+            SAY.due(acts + " acts: undo", goes.undo(), stays.undo());
+        }
     }
 }

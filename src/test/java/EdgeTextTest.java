@@ -65,6 +65,10 @@ public final class EdgeTextTest {
         SAY.due("no image", x.back(0), NONE);
         SAY.due("none was in force", x.force(NONE), NONE);
         SAY.due("what another object has stays", old.count(6), 1);
+
+        SAY.of(1, "The constants: `NONE = -1`: None.");
+        SAY.due("NONE", NONE, -1);
+        SAY.due("what is answered", x.count(5), -1);
     }
 
     private static void feed() {
@@ -113,6 +117,15 @@ public final class EdgeTextTest {
         Check.feed(x, "ask 1");
         SAY.due("0 of 5", x.end(0), 0);
         SAY.due("nothing is left", x.rule(), fault(0, 0));
+        Check.feed(x, "ask 1 if 1<=1");
+        x.end(11);
+        SAY.due("< without the = that was cut off", x.rule(), fault(11, 0));
+        Check.feed(x, "ask kind+12");
+        x.end(10);
+        SAY.due("a digit was cut off", x.rule(), 1);
+        Check.feed(x, "ask kind");
+        x.end(7);
+        SAY.due("a letter was cut off", x.rule(), fault(4, 0));
 
         SAY.of(3, "NONE, and nothing happens, if it has not so many, or n is below 0.");
         x = new WayMayor();
@@ -190,7 +203,18 @@ public final class EdgeTextTest {
             SAY.due("a rule", Check.rule(x, "ask " + i), i);
             SAY.due("the tape", x.count(13), 0);
         }
+        x = Check.inTown(CROWD);
+        String full = "ask 9 if kind=9" + "+0".repeat(56);
+        SAY.due("a fault behind all that a rule can have", Check.rule(x, full + "?"), fault(full.length(), 0));
+        SAY.due("as much again", Check.rule(x, "ask 10-kind" + "+0".repeat(58)), 0);
+        x.force(0);
+        x.hour();
+        SAY.due("nothing is left of the one with a fault", x.before(0, 2), 1);
 
+        x = new WayMayor();
+        for (int i = 0; i < 6; i++) {
+            Check.rule(x, "ask 1");
+        }
         SAY.of(5, "NONE, and nothing happens: there are 6.");
         SAY.due("a seventh", Check.rule(x, "ask 1"), NONE);
         SAY.due("its tape", x.count(13), 5);
@@ -249,8 +273,9 @@ public final class EdgeTextTest {
 
         SAY.of(4, "in the order told. It is HOUR 0; no STRANGER is in the TOWN, nobody was ASKED, nobody has the CHAIN.");
         x = Check.inTown(CROWD);
-        Sentences.hours(x, 5);
+        Sentences.hours(x, 8);
         SAY.holds("somebody has the chain", x.count(7) == 1 && x.count(9) > 0);
+        SAY.holds("somebody was asked in this term", x.person(1, 3) > 0);
         Check.town(x, "town 4 2;stranger 0 1 3;person 2 7 0;stranger 3 2 1;person 0 8 1");
         SAY.due("person 0", x.person(0, 0), 2);
         SAY.due("person 1", x.person(1, 0), 0);
@@ -260,6 +285,7 @@ public final class EdgeTextTest {
         SAY.due("chain", x.count(7), NONE);
         SAY.due("got there", x.count(8), 0);
         SAY.due("asked, in all", x.count(9), 0);
+        Check.town(x, CROWD);
         for (int i = 0; i < 2; i++) {
             SAY.due("stranger " + i, x.stranger(i, 3), NONE);
             SAY.due("asked in this term", x.person(i, 3), 0);
@@ -397,6 +423,11 @@ public final class EdgeTextTest {
         rule("ask kin", fault(4, 0));
         rule("askkind", fault(0, 0));
         rule("ask kind1", fault(8, 0));
+        rule("ask kinda", fault(4, 0));
+        rule("ask kindz", fault(4, 0));
+        rule("ask kind`", fault(8, 0));
+        rule("ask kind{", fault(8, 0));
+        town("townz 2 1", fault(0, 0));
         rule("ask kindif 1=1", fault(4, 0));
         rule("ask 1if kind=1and asked=1or not[1=1]and not1=1", 0);
 
@@ -430,6 +461,7 @@ public final class EdgeTextTest {
         asks("ask 1 if asked=0 and person=1 and hour=6;ask 1 if person=1 and hour<5", 6, 1);
         asks("ask 1 if before=3 and hour=6;ask 1 if person=1 and hour<5", 6, 1);
         asks("ask 1 if before=0 and hour=2;ask 1 if person=0 and hour=0", 2, 1);
+        SAY.due("each by whom he himself has asked", Sentences.by(CROWD, "ask 1 if person=0 and before=0").hour(), 2);
         asks("ask 1 if others=2", 0, 0);
         asks("ask 1 if others>2 or others<2", 0, NONE);
         asks("ask 1 if place=0", 0, 0);
@@ -592,6 +624,9 @@ public final class EdgeTextTest {
         rule("ask 1 if [1=1 ", fault(14, 0));
         rule("ask 1 if 1", fault(10, 0));
         rule("ask 1 if 1=", fault(11, 0));
+        rule("ask 1 if 1<=", fault(12, 0));
+        rule("ask 1 if 1>=", fault(12, 0));
+        rule("ask 1 if 1>", fault(11, 0));
         rule("ask 1 if 1=1 or ", fault(16, 0));
         rule("town 2 1", fault(0, 0));
         rule("ask ask", fault(4, 0));
@@ -620,6 +655,16 @@ public final class EdgeTextTest {
         town("town 3 1;stranger 2 2 1", fault(20, 1));
         town("town 3 1;stranger 0 0 1", fault(20, 1));
         town("town 3 1;street 3 3", fault(16, 1));
+        town("town 3 1;street 3 1", fault(16, 1));
+        town("town 3 1;street 1 3", fault(18, 1));
+        town("town 3 1;street 000000 1", fault(16, 1));
+        town("town 3 1;street 0 000001", fault(18, 1));
+        town("town 3 1;person 000000 1 1", fault(16, 1));
+        town("town 3 1;person 0 000001 1", fault(18, 1));
+        town("town 3 1;person 0 1 000001", fault(20, 1));
+        town("town 3 1;stranger 000000 1 1", fault(18, 1));
+        town("town 3 1;stranger 0 000001 1", fault(20, 1));
+        town("town 3 1;stranger 0 1 000001", fault(22, 1));
         town("town 3 1;person 1 1 1", 1);
         SAY.of(5, "1 a NUMBER of more digits, or not as told");
         rule("ask 1 if 1=123456", fault(11, 1));
@@ -666,6 +711,8 @@ public final class EdgeTextTest {
         town(five, 0);
         town(five + ";stranger", fault(five.length() + 1, 4));
         town(five + ";person 0 0 0", 1);
+        town(five + ";street 0 1", 0);
+        town(six + ";street 0 1", 6);
         SAY.of(5, "4 one CLAUSE too many");
         String twelve = "ask 1" + ";ask 1".repeat(11);
         rule(twelve, 0);
