@@ -99,8 +99,8 @@ public final class EdgeAskTest {
         SAY.due("0 hours on: as it is", x.ahead(0, 0, 0), 1);
         SAY.due("0 hours on: where he is", x.ahead(0, 0, 1), 1);
 
-        SAY.of(17, "1: where the STRANGER of that number (NONE: not in the TOWN), 2: how many, 3: who has the CHAIN (NONE: "
-                + "nobody; of no number). -2 without these, or a TOWN.");
+        SAY.of(17, "AHEAD what 0: how often the PERSON, 1: where the STRANGER of that number (NONE: not in the TOWN), 2: how "
+                + "many, 3: who has the CHAIN (NONE: nobody; of no number). -2 without these, or a TOWN.");
         int[] hoursNot = {101, MAX, -1, MIN};
         int[] whatNot = {4, MAX, -1, MIN};
         for (int i = 0; i < 4; i++) {
@@ -146,7 +146,7 @@ public final class EdgeAskTest {
         x = Sentences.by(STUCK, "ask 1 if hour=0 and person=1");
         SAY.due("had for one hour", x.mayor(1), 1);
 
-        SAY.of(18, "-2: at none of these; NONE without that PERSON.");
+        SAY.of(18, "MAYOR; -2: at none of these; NONE without that PERSON.");
         SAY.due("never", x.mayor(0), -2);
         x = Check.inTown(STUCK);
         SAY.due("never asked", x.mayor(0), -2);

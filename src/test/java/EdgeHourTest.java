@@ -163,7 +163,7 @@ public final class EdgeHourTest {
     }
 
     private static void coming() {
-        SAY.of(11, "(1) Each STRANGER who is not in the TOWN comes, at FROM, if the rest of HOUR by EVERY is 0.");
+        SAY.of(11, "An HOUR: (1) Each STRANGER who is not in the TOWN comes, at FROM, if the rest of HOUR by EVERY is 0.");
         // He is told there is no way, and stays at 0 for good.
         WayMayor x = Check.inTown("town 3 9;street 1 2;person 0 5 0;stranger 0 2 3");
         SAY.due("at hour 0", x.hour(), 1);
@@ -395,7 +395,7 @@ public final class EdgeHourTest {
         x.hour();
         SAY.due("a term of one hour", x.count(7), 0);
         x = Sentences.by(CROWD, "ask 2 if person=2 and hour>2;ask 1 if person=2 and stranger=0 or person=1 and stranger=1");
-        Check.rule(x, "ask 1 if person=1 and stranger=0 and hour=6");
+        Check.rule(x, "ask 1 if person=1 and stranger=0 or person=2 and stranger=1 and hour=6");
         Sentences.hours(x, 4);
         SAY.due("not yet", x.count(7), NONE);
         x.hour();
@@ -405,7 +405,8 @@ public final class EdgeHourTest {
         Sentences.hours(x, 4);
         SAY.due("2 has it still", x.count(7), 2);
         x.hour();
-        SAY.due("1 in all", x.person(1, 4), 3);
+        SAY.due("1 in all", x.person(1, 4), 4);
+        SAY.due("2 in all", x.person(2, 4), 5);
         SAY.due("in this term alone", x.count(7), 1);
 
         SAY.of(11, "of several the least (nobody, if nobody was), and once more; how often they were ASKED in this TERM is 0 "
@@ -477,7 +478,7 @@ public final class EdgeHourTest {
         SAY.holds("nothing happens", seen.equals(Sentences.seen(x)));
         SAY.due("no town", new WayMayor().stand(0, 1), NONE);
 
-        SAY.of(12, "STAND (a PERSON stands at another PLACE)");
+        SAY.of(12, "ACTS: an HOUR; STAND (a PERSON stands at another PLACE)");
         SAY.due("acts", x.count(11), 3);
         SAY.due("without a street between", x.person(2, 0), 0);
         x.hour();

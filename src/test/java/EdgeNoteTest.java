@@ -188,8 +188,16 @@ public final class EdgeNoteTest {
         for (int i = 0; i < 6; i++) {
             Check.rule(x, i < 3 ? "ask 1 if stranger=4;ask kind" : "ask kind");
         }
-        // Of the last one three are alike, and four; of the others all seven.
+        // Of stranger 4 three are alike, and four; of the others all seven.
         twoOfLook(x, 0, 4, 4);
+        String[] rules = {"ask kind", "ask kind", "ask kind if stranger=0;ask 9-person", "ask 9-person",
+            "ask person if stranger=0;ask 9-person"};
+        x = Check.inTown(CROWD);
+        for (String rule : rules) {
+            Check.rule(x, rule);
+        }
+        // Of stranger 0 four, one and one are alike, of 1 three and three: not the most parts, the least of the greatest.
+        twoOfLook(x, 0, 1, 3);
 
         SAY.of(30, "LOOK (n 0 to 60) what 0: the STRANGER, 1: how many; -2: no RULE is so, or there are no STRANGERS. NONE without "
                 + "these, or a TOWN.");

@@ -210,6 +210,14 @@ public final class EdgeTextTest {
         x.force(0);
         x.hour();
         SAY.due("nothing is left of the one with a fault", x.before(0, 2), 1);
+        x = Check.inTown(CROWD);
+        for (int i = 0; i < 12; i++) {
+            SAY.due("twelve clauses and a fault", Check.rule(x, "ask 1;".repeat(12)), fault(72, 0));
+        }
+        SAY.due("a rule", Check.rule(x, "ask 5 if person=2"), 0);
+        x.force(0);
+        x.hour();
+        SAY.due("nothing is left of those with a fault", x.before(0, 2), 1);
 
         x = new WayMayor();
         for (int i = 0; i < 6; i++) {
@@ -267,6 +275,8 @@ public final class EdgeTextTest {
         WayMayor x = Check.inTown("town 8 1;street 7 0;street 0 7;street 7 0;street 6 7");
         SAY.due("of 0", x.streets(0), 128);
         SAY.due("of 7", x.streets(7), 65);
+        SAY.due("told twice", Check.inTown("town 2 1;street 0 1;street 0 1").streets(0), 2);
+        SAY.due("told twice, the other way round", Check.inTown("town 2 1;street 0 1;street 1 0").streets(0), 2);
         SAY.due("it is one street", x.shut(0, 7), 1);
         SAY.due("of 0", x.streets(0), 0);
         SAY.due("of 7", x.streets(7), 64);
@@ -446,8 +456,8 @@ public final class EdgeTextTest {
     }
 
     private static void ruleWords() {
-        SAY.of(5, "stranger, person, kind, asked (how often they were in this TERM), before (how often he has ASKED them, "
-                + "in all), others (how many more stand there), place");
+        SAY.of(5, "of a STRANGER and a PERSON who stands where he is: stranger, person, kind, asked (how often they were in "
+                + "this TERM), before (how often he has ASKED them, in all), others (how many more stand there), place");
         asks("ask 1 if stranger=0", 0, 0);
         asks("ask 1 if stranger>0", 0, NONE);
         asks("ask person", 0, 2);
