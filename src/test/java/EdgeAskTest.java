@@ -424,6 +424,9 @@ public final class EdgeAskTest {
         x = Check.inTown("town 8 9;street 5 1;street 5 6;street 1 0;street 0 6;street 0 7;person 0 1 1;stranger 5 6 20");
         threeOfPost(x, 4, 1, 0, 7);
         threeOfPost(x, 3, 1, 1, 5);
+        // By 0 6 stranger 1 gets there, by 0 7 stranger 0; both by no one street between two of the eight places.
+        x = Check.inTown("town 8 9;street 0 6;street 0 7;street 5 7;stranger 7 5 20;stranger 0 7 20");
+        threeOfPost(x, 3, 1, 0, 6);
     }
 
     private static void game() {
